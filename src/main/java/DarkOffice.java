@@ -38,11 +38,7 @@ public final class DarkOffice {
         if (code < 1 || code > 126) {
             return OUTSIDE;
         }
-        if (page.length >= MOST_LETTERS) {
-            return FULL;
-        }
-        page.put(code);
-        return page.length;
+        return page.put(code);
     }
 
     public int blank() {
@@ -104,9 +100,6 @@ public final class DarkOffice {
     public int person(int section) {
         if (!isLamp(section)) {
             return UNKNOWN;
-        }
-        if (now.people >= MOST_PEOPLE) {
-            return FULL;
         }
         return now.seat(section);
     }
@@ -203,11 +196,7 @@ public final class DarkOffice {
         if (!isLamp(lamp)) {
             return UNKNOWN;
         }
-        if (now.told >= MOST_TOLD) {
-            return FULL;
-        }
-        now.tell(minutes, lamp, lit);
-        return now.told;
+        return now.tell(minutes, lamp, lit);
     }
 
     public int forget() {
@@ -448,11 +437,13 @@ public final class DarkOffice {
         final int[] codes = new int[MOST_LETTERS];
         int length;
 
-        void put(int code) {
-            if (length < codes.length) {
-                codes[length] = code;
-                length++;
+        int put(int code) {
+            if (length >= MOST_LETTERS) {
+                return FULL;
             }
+            codes[length] = code;
+            length++;
+            return length;
         }
 
         int firstFault() {
@@ -606,10 +597,10 @@ public final class DarkOffice {
         }
 
         int seat(int section) {
-            int person = people;
-            if (person < 0 || person >= MOST_PEOPLE) {
+            if (people >= MOST_PEOPLE) {
                 return FULL;
             }
+            int person = people;
             sections[person] = section;
             waves[person] = 0;
             darks[person] = 0;
@@ -657,9 +648,10 @@ public final class DarkOffice {
             return sum;
         }
 
-        void tell(int minute, int lamp, boolean isLit) {
-            if (minute < 0 || minute > LAST_TOLD_MINUTE) {
-                return;
+        /** The minute must be one of which the book can tell. */
+        int tell(int minute, int lamp, boolean isLit) {
+            if (told >= MOST_TOLD) {
+                return FULL;
             }
             if (isLit) {
                 toldLit[minute] |= 1 << lamp;
@@ -667,6 +659,7 @@ public final class DarkOffice {
                 toldDark[minute] |= 1 << lamp;
             }
             told++;
+            return told;
         }
 
         void emptyBook() {

@@ -5,10 +5,12 @@ public final class AllTest {
     public static void main(String[] args) {
         image();
         restoreAll();
+        restoreBook();
         restoreRefused();
         count();
         digestOfNoOffice();
         digestOfAnOffice();
+        digestInOrder();
         CHECKS.end();
     }
 
@@ -36,7 +38,6 @@ public final class AllTest {
         DarkOffice x = Checks.office("l3,l1,w2", 0, 2);
         x.minute(1);
         x.minute(2);
-        x.book(0, 1, false);
         x.book(3, 0, true);
         x.round(0, 0);
         long before = x.digest();
@@ -46,7 +47,10 @@ public final class AllTest {
         x.move(0, 2);
         x.forget();
         x.book(1, 2, true);
-        x.minute(0);
+        x.book(2, 2, true);
+        for (int minute = 0; minute < 5; minute++) {
+            x.minute(0);
+        }
         due("all is changed", x.digest() == before ? 1 : 0, 0);
         due("restore()", x.restore(), 2);
         due("digest() as it was", x.digest(), before);
@@ -60,6 +64,27 @@ public final class AllTest {
         x.restore();
         due("rounds stay", x.count(10), 2);
         due("the page stays", x.count(8), 1);
+    }
+
+    /** Each thing that the book can tell alone: it is told, kept, forgotten and told again by restore(). */
+    private static void restoreBook() {
+        for (int minute = 0; minute <= 6; minute++) {
+            for (int lit = 0; lit <= 1; lit++) {
+                DarkOffice x = Checks.office("l1,l1", 0);
+                x.book(minute, 0, lit == 1);
+                int told = x.waved(0, 6, 0);
+                x.image();
+                x.forget();
+                x.book(minute, 0, lit == 0);
+                int otherwise = x.waved(0, 6, 0);
+                due("told of " + minute + ", " + lit, told, minute > 0 ? 32 : 64 - 64 * lit);
+                due("told otherwise of " + minute + ", " + lit, otherwise, minute > 0 ? 32 : 64 * lit);
+                int least = x.waved(0, 6, 1);
+                x.restore();
+                due("restored of " + minute + ", " + lit, x.waved(0, 6, 0), told);
+                due("another least of " + minute + ", " + lit, x.waved(0, 6, 1) == least ? 1 : 0, 0);
+            }
+        }
     }
 
     private static void restoreRefused() {
@@ -128,6 +153,32 @@ public final class AllTest {
                     2, 2, 2, 0, 2,
                     'w',
                     2, 1, 2, 1, 1, 1, 1, 1, 1, 1, 1}));
+    }
+
+    /** Answers next to one another differ here, and one minute more or less would tell otherwise. */
+    private static void digestInOrder() {
+        DarkOffice x = Checks.office("h2,l1", 1);
+        x.minute(1);
+        x.book(2, 1, true);
+        x.book(4, 1, true);
+        // Behind 2 and behind 4 both lamps are lit for sure; behind 3 the hall is, but lamp 1 in every second way.
+        due("digest() in order", x.digest(), digest(
+                new long[] {
+                    4, 2, 2, 3, 0, 1,
+                    0, 1, 1, 2, 1, 2,
+                    1, 1, 1, 0, 4, 10, 1,
+                    2, 1, 1, 1, 2,
+                    2, 2, 1, 1, 1, 1, 0, 2, 0, 1, 0}));
+        DarkOffice y = Checks.office("l2,l1", 0);
+        y.minute(1);
+        // The lamp is lit for a minute yet, so he waves in the second one alone.
+        due("digest() of a plan", y.digest(), digest(
+                new long[] {
+                    0, 2, 2, 1, 1, 1,
+                    0, 1, 0, 2, 0, 1,
+                    0, 1, 1, 0, 16, 0, 0,
+                    1, 0, 1, 0, 1,
+                    2, 1, 1, 1, 1, 1, 0, 0, 0, 1, 0}));
     }
 
     /** The digest of the numbers, with the page's letters ahead of the last eleven. */

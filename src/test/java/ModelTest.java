@@ -1,6 +1,6 @@
 import java.util.Random;
 
-/** All promises: long runs of calls, drawn by fixed seeds, on the class and on PlainOffice; each answer must be the same. */
+/** All promises: runs of calls, drawn by fixed seeds, on the class and on PlainOffice; all answers must be the same. */
 public final class ModelTest {
     private static final Checks CHECKS = new Checks("ModelTest");
     private static final int RUNS = 400;

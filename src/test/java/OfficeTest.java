@@ -158,7 +158,10 @@ public final class OfficeTest {
     private static void anotherOffice() {
         DarkOffice x = Checks.office("l3,l3,l3", 0, 2);
         x.minute(3);
-        x.minute(0);
+        for (int minute = 0; minute < 4; minute++) {
+            x.minute(0);
+        }
+        x.minute(1);
         x.book(1, 0, true);
         x.image();
         x.round(0, 0);
