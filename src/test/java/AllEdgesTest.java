@@ -108,19 +108,37 @@ public final class AllEdgesTest {
         for (int much = 0; much <= 8; much++) {
             DarkOffice x = Checks.office("l1,l1", 0);
             for (int told = 0; told < much; told++) {
-                x.book(told % 7, 0, told % 7 % 2 == 1);
+                x.book(told % 7, 0, false);
             }
-            int ways = x.waved(0, 6, 0);
-            int least = x.waved(0, 6, 1);
             x.image();
             x.forget();
             x.book(6, 1, true);
-            due("changed: waved(0, 6, 0)", x.waved(0, 6, 0), 0);
             x.restore();
             due("restored: count(7)", x.count(7), much);
-            due("restored: waved(0, 6, 0)", x.waved(0, 6, 0), ways);
-            due("restored: waved(0, 6, 1)", x.waved(0, 6, 1), least);
             due("one more: book(0, 0, false)", x.book(0, 0, false), much < 8 ? much + 1 : DarkOffice.FULL);
+        }
+        for (int minute = 0; minute <= 6; minute++) {
+            bookIsRestored(minute, true);
+            bookIsRestored(minute, false);
+        }
+    }
+
+    /** One thing alone is told and kept; the contrary is told then. */
+    private static void bookIsRestored(int minute, boolean lit) {
+        DarkOffice x = Checks.office("l1,l1", 0);
+        x.book(minute, 0, lit);
+        x.image();
+        x.forget();
+        x.book(minute, 0, !lit);
+        x.restore();
+        String call = "told of " + minute + ", " + lit + ": waved(0, 6, ";
+        int least = lit ? 1 << minute >> 1 : 0;
+        if (minute == 0) {
+            due(call + "0)", x.waved(0, 6, 0), lit ? 0 : 64);
+            due(call + "1)", x.waved(0, 6, 1), lit ? NONE : 0);
+        } else {
+            due(call + "0)", x.waved(0, 6, 0), 32);
+            due(call + "1)", x.waved(0, 6, 1), least);
         }
     }
 
@@ -362,6 +380,16 @@ public final class AllEdgesTest {
                 1, 1, 1, 0, 16, 0, 1,
                 4, 3, 3, 0, 1,
                 2, 1, 4, 2, 1, 1, 2, 0, 0, 1, 0));
+        DarkOffice lit = Checks.office("h2,l1", 1);
+        lit.book(2, 1, true);
+        lit.book(4, 1, true);
+        // Both are lit for sure behind 2 and 4; behind 3 the hall is, and lamp 1 tells. Waves in 2 and 4 are 10.
+        due("one lamp tells behind 3 alone", lit.digest(), Checks.digest(
+                4, 2, 0, 3, 0, 1,
+                0, 1, 0, 2, 1, 2,
+                1, 0, 0, 0, 4, 10, 1,
+                2, 1, 1, 1, 2,
+                2, 0, 1, 0, 0, 0, 0, 2, 0, 1, 0));
     }
 
     private static void digestWithAnOffice() {
@@ -378,6 +406,21 @@ public final class AllEdgesTest {
                 0, 1, 0, 2, 0, 2,
                 0, 0, 0, 0, 16, 0, 0,
                 1, 1, 0, 1, 2,
+                2, 0, 1, 0, 0, 0, 0, 0, 0, 1, 0));
+        x.minute(1);
+        // Now it goes out in the second minute: of one there would be no wave, of three one in the second as well.
+        due("lit", x.digest(), Checks.digest(
+                2, 2, 2, 3, 1, 1,
+                0, 1, 0, 2, 0, 2,
+                0, 1, 1, 0, 16, 0, 0,
+                1, 0, 1, 1, 2,
+                2, 1, 1, 1, 1, 1, 0, 0, 0, 1, 0));
+        DarkOffice each = Checks.office("l1,l1", 0);
+        due("a wave each minute", each.digest(), Checks.digest(
+                0, 1, 0, 1, 1, 1,
+                0, 1, 0, 2, 0, 1,
+                0, 0, 0, 0, 16, 0, 0,
+                2, 1, 1, 0, 1,
                 2, 0, 1, 0, 0, 0, 0, 0, 0, 1, 0));
     }
 

@@ -296,6 +296,10 @@ public final class BookEdgesTest {
         due("worse if lit", Checks.office("h2,l1", 1).look(0, 2), 1);
         // He cannot light lamp 0: dark is its worse one.
         due("worse if dark", Checks.office("l1,l1", 1).look(0, 1), 1);
+        // Lamp 0 stays lit, whether he waves or not: lit is its worse one.
+        DarkOffice lit = Checks.office("l9,l1", 0, 1);
+        lit.minute(1);
+        due("lit in every way", lit.look(1, 1), 1);
         // Ways 0 and 2 are left, and each lamp tells them apart.
         DarkOffice x = Checks.office("h2,l1", 1, 0);
         x.book(1, 1, false);
