@@ -132,14 +132,16 @@ public final class AllEdgesTest {
         x.book(minute, 0, !lit);
         x.restore();
         String call = "told of " + minute + ", " + lit + ": waved(0, 6, ";
-        int least = lit ? 1 << minute >> 1 : 0;
-        if (minute == 0) {
-            due(call + "0)", x.waved(0, 6, 0), lit ? 0 : 64);
-            due(call + "1)", x.waved(0, 6, 1), lit ? NONE : 0);
-        } else {
+        if (minute > 0) {
             due(call + "0)", x.waved(0, 6, 0), 32);
-            due(call + "1)", x.waved(0, 6, 1), least);
+            due(call + "1)", x.waved(0, 6, 1), lit ? 1 << minute - 1 : 0);
+            return;
         }
+        due(call + "0), dark now", x.waved(0, 6, 0), lit ? 0 : 64);
+        due(call + "1), dark now", x.waved(0, 6, 1), lit ? NONE : 0);
+        x.minute(1);
+        due(call + "0), lit now", x.waved(0, 6, 0), lit ? 64 : 0);
+        due(call + "1), lit now", x.waved(0, 6, 1), lit ? 0 : NONE);
     }
 
     private static void imageKeepsNothingElse() {
@@ -442,13 +444,16 @@ public final class AllEdgesTest {
         DarkOffice waving = Checks.office("l1,l1", 0, 0, 1, 1);
         DarkOffice dark = Checks.office("l1,l1", 0, 0, 1, 1);
         DarkOffice each = Checks.office("l1,l1", 0, 0, 1, 1);
+        DarkOffice long501 = Checks.office("l1,l1", 0, 0, 1, 1);
         for (int minute = 1; minute <= 501; minute++) {
             due("all wave: minute(15), minute " + minute, waving.minute(15), 0);
             due("nobody waves: minute(0), minute " + minute, dark.minute(0), 4);
             each.minute(8);
+            long501.minute(0);
         }
         due("call 512: count(5)", waving.count(5), 2004);
         due("call 512: count(6)", dark.count(6), 2004);
+        due("call 512: image()", long501.image(), 501);
         due("call 512: about(3, 2)", each.about(3, 2), 501);
         DarkOffice offices = new DarkOffice();
         for (int time = 1; time <= 85; time++) {

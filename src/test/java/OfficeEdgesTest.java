@@ -427,6 +427,9 @@ public final class OfficeEdgesTest {
             due("lamp(" + section + ", 5) of lamps", lamps.lamp(section, 5), 1);
             due("lamp(" + section + ", 5) of wide ones", wide.lamp(section, 5), section % 5 == 0 ? 2 : 3);
         }
+        DarkOffice one = Checks.office("h1,l1,l1,l1,l1,l1");
+        due("lamp(0, 5) of the hall: itself alone", one.lamp(0, 5), 1);
+        due("lamp(5, 5): itself and the hall", one.lamp(5, 5), 2);
     }
 
     private static void lampRefused() {
