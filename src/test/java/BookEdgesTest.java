@@ -34,6 +34,7 @@ public final class BookEdgesTest {
         nightsHowOften();
         nightsHowManyLit();
         nightsRest();
+        nightsRoundedDown();
         nightsWouldBe();
         nightsSeedThen();
         nightsOutside();
@@ -441,6 +442,22 @@ public final class BookEdgesTest {
         }
         due("by hand: nights(1, 0, 2)", x.nights(1, 0, 2), 12345);
         due("by hand: nights(1, MAX, 2)", x.nights(1, Integer.MAX_VALUE, 2), 1043980748);
+    }
+
+    private static void nightsRoundedDown() {
+        says("then that by 65536 (rounded down), its rest.");
+        DarkOffice x = Checks.office("l1,l1", 0);
+        // Draws of rest 0 and of rest 5, with little to nearly 65536 above what is rounded down to.
+        for (int rest = 0; rest <= 5; rest += 5) {
+            for (int part = 0; part < 65536; part += 8191) {
+                int seed = 0;
+                while (next(seed) / 65536 % 6 != rest || next(seed) % 65536 < part || next(seed) % 65536 > part + 99) {
+                    seed++;
+                }
+                String call = "rest " + rest + ", part " + part + ": nights(1, " + seed + ", 0)";
+                due(call, x.nights(1, seed, 0), rest == 0 ? 0 : 1);
+            }
+        }
     }
 
     private static void nightsWouldBe() {

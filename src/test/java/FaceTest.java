@@ -91,6 +91,12 @@ public final class FaceTest {
             isSo(each.getName() + " is static", Modifier.isStatic(modifiers));
             isSo(each.getName() + " is not public", !Modifier.isPublic(modifiers) && !Modifier.isProtected(modifiers));
             isSo(each.getName() + " has at most 20 fields", each.getDeclaredFields().length <= 20);
+            for (Method method : each.getDeclaredMethods()) {
+                String name = each.getName() + "." + method.getName();
+                boolean ofTheFace = String.join(" ", FACE).contains(" " + method.getName() + "(");
+                isSo(name + " bears no name of the face", !ofTheFace);
+                isSo(name + " has at most 7 parameters", method.getParameterCount() <= 7);
+            }
         }
     }
 

@@ -32,6 +32,7 @@ public final class OfficeEdgesTest {
         officeGoneWithAllThatWas();
         officeEmptiesThePage();
         officeOfNone();
+        lampHolds();
         lampLitYet();
         lampSeesAsBits();
         lampPeopleAsBits();
@@ -376,6 +377,23 @@ public final class OfficeEdgesTest {
         x.letter('7');
         due("office() of the whole", x.office(), 2);
         due("lamp(1, 1)", x.lamp(1, 1), 7);
+    }
+
+    private static void lampHolds() {
+        says("1 for how many MINUTES it is lit, if one WAVES");
+        for (char kind : "lwth".toCharArray()) {
+            for (int digit = 1; digit <= 9; digit++) {
+                DarkOffice x = Checks.office("l1," + kind + digit, 1);
+                due("lamp(1, 1) of " + kind + digit, x.lamp(1, 1), digit);
+                x.minute(1);
+                due("lit for as many: lamp(1, 2) of " + kind + digit, x.lamp(1, 2), digit);
+                x.minute(0);
+                due("the same then: lamp(1, 1) of " + kind + digit, x.lamp(1, 1), digit);
+            }
+        }
+        DarkOffice x = Checks.office("d9,d1");
+        due("lamp(0, 1) of d9", x.lamp(0, 1), 5);
+        due("lamp(1, 1) of d1", x.lamp(1, 1), 1);
     }
 
     private static void lampLitYet() {

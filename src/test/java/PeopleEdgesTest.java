@@ -13,6 +13,7 @@ public final class PeopleEdgesTest {
         personNumbers();
         personNowhere();
         personFull();
+        aboutSection();
         aboutLit();
         aboutWaved();
         aboutDark();
@@ -100,6 +101,17 @@ public final class PeopleEdgesTest {
         Checks.write(x, "l1,l1");
         x.office();
         due("a first one in another office", x.person(0), 0);
+    }
+
+    private static void aboutSection() {
+        says("Of a PERSON: what = 0 his SECTION");
+        for (int many = 2; many <= 6; many++) {
+            DarkOffice x = Checks.office(Checks.alike("l1", many), many - 1, 0, 0, many - 1);
+            int[] wants = {many - 1, 0, 0, many - 1};
+            for (int person = 0; person < 4; person++) {
+                due("about(" + person + ", 0) of " + many, x.about(person, 0), wants[person]);
+            }
+        }
     }
 
     private static void aboutLit() {

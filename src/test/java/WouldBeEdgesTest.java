@@ -15,6 +15,7 @@ public final class WouldBeEdgesTest {
         leastSoManieth();
         leastRefused();
         roundMinutes();
+        roundWavesWhereHeIs();
         roundAtItsEnd();
         roundNotBeyondTheEnds();
         roundNobodyElse();
@@ -163,6 +164,18 @@ public final class WouldBeEdgesTest {
         DarkOffice lit = Checks.office("h2,h2", 0);
         lit.minute(1);
         roundIs("all are lit already", lit, 0, 1, 1);
+    }
+
+    private static void roundWavesWhereHeIs() {
+        says("ROUND of the guard from a SECTION: in each MINUTE he WAVES where he is");
+        // In the first minute, ahead of his first step, he waves where he begins.
+        roundIs("where he begins, at 0", Checks.office("l9,l9"), 0, 2, 2, 0);
+        roundIs("where he begins, at the last", Checks.office("l9,l9"), 1, 2, 0, 1);
+        // In the last one he waves where he came, not where he would go then.
+        roundIs("where he came last", Checks.office("h1,l1,h1"), 0, 2, 2, 0);
+        roundIs("where he came last, down", Checks.office("h1,l1,h1"), 2, 2, 0, 0);
+        // In each: the lamp of the middle is lit as he goes by.
+        roundIs("on the way", Checks.office("l9,l2,l1"), 0, 3, 2, 2, 0);
     }
 
     private static void roundAtItsEnd() {
