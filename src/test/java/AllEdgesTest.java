@@ -303,17 +303,18 @@ public final class AllEdgesTest {
     private static void countOfOffices() {
         says("9 how often an OFFICE was read, 10 how often round() was done.");
         DarkOffice x = new DarkOffice();
-        for (int time = 0; time < 20; time++) {
+        for (int time = 0; time < 10; time++) {
             due("count(9)", x.count(9), time);
-            due("count(10)", x.count(10), time);
+            due("count(10)", x.count(10), 2 * time);
             Checks.write(x, "h1,h1");
             x.office();
             due("none again: office()", x.office(), STATE);
             x.round(1, 0);
+            x.round(0, 16);
         }
         x.round(1, 0);
-        due("count(9) of 20", x.count(9), 20);
-        due("count(10) of 20", x.count(10), 20);
+        due("count(9) of 10", x.count(9), 10);
+        due("count(10) of 20, and a refusal", x.count(10), 20);
     }
 
     private static void countOutside() {

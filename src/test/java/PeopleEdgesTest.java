@@ -143,6 +143,12 @@ public final class PeopleEdgesTest {
         for (int person = 0; person < 4; person++) {
             due("about(" + person + ", 2)", x.about(person, 2), wants[person]);
         }
+        DarkOffice first = Checks.office("h9,h9", 0, 0);
+        first.minute(0b11);
+        due("in the first minute: about(1, 2)", first.about(1, 2), 1);
+        first.minute(0b10);
+        due("where all is lit already: about(1, 2)", first.about(1, 2), 2);
+        due("the other one: about(0, 2)", first.about(0, 2), 1);
     }
 
     private static void aboutDark() {
@@ -264,6 +270,10 @@ public final class PeopleEdgesTest {
                 due("minute(" + who + "), about(" + person + ", 2)", x.about(person, 2), who >> person & 1);
             }
         }
+        DarkOffice x = Checks.office("l1,l1,l1,l1", 0, 1, 2, 3);
+        due("minute(0)", x.minute(0), 4);
+        due("minute(0) again: of this one alone", x.minute(0), 4);
+        due("minute(15) then", x.minute(15), 0);
         DarkOffice nobody = Checks.office("l1,l1");
         due("minute(0) of nobody", nobody.minute(0), 0);
         due("it went by", nobody.count(4), 1);

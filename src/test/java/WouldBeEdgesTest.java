@@ -334,6 +334,8 @@ public final class WouldBeEdgesTest {
             due("one: together(1)", Checks.office(Checks.alike("l9", many)).together(1), 1);
             due("all: together(1)", Checks.office(Checks.alike("h9", many)).together(1), many);
         }
+        // Lamp 1 sees but one section; its own is seen by two.
+        due("its own and the hall: together(1)", Checks.office("h1,l1,l1").together(1), 2);
     }
 
     private static void togetherRefused() {
