@@ -15,6 +15,7 @@ import java.util.regex.Pattern;
 public final class FaceTest {
     private static final Checks CHECKS = new Checks("FaceTest");
     private static final Path SOURCE = Path.of("src/main/java/DarkOffice.java");
+    private static final Path DOCUMENT = Path.of("../shared/DOC.md");
     private static final String[] FACE = {
         "int letter(int)", "int blank()", "int fault()", "int office()", "int lamp(int,int)", "int as(int,int)",
         "int person(int)", "int about(int,int)", "int move(int,int)", "int minute(int)", "int least(int,int)",
@@ -28,7 +29,9 @@ public final class FaceTest {
         theClass();
         methods();
         classesInside();
-        words(withoutComments(Files.readString(SOURCE)));
+        String text = withoutComments(Files.readString(SOURCE));
+        words(text);
+        faceOfTheDocument(text);
         CHECKS.end();
     }
 
@@ -98,6 +101,25 @@ public final class FaceTest {
                 isSo(name + " has at most 7 parameters", method.getParameterCount() <= 7);
             }
         }
+    }
+
+    /** Names of parameters are not in the compiled class: the text has each line of the face, word by word. */
+    private static void faceOfTheDocument(String text) throws IOException {
+        if (!Files.isReadable(DOCUMENT)) {
+            return;
+        }
+        String document = Files.readString(DOCUMENT);
+        int begin = document.indexOf("```java\n");
+        int end = document.indexOf("```", begin + 1);
+        isSo("the document has a face", begin >= 0 && end > begin);
+        int lines = 0;
+        for (String line : document.substring(begin, end).split("\n")) {
+            if (line.startsWith("    public ")) {
+                isSo("the class has " + line.trim(), text.contains(line.replace(");", ") {")));
+                lines++;
+            }
+        }
+        CHECKS.due("lines of the face: constants, constructor, methods", lines, 2 + FACE.length);
     }
 
     private static String withoutComments(String text) {
